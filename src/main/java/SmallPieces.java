@@ -152,7 +152,7 @@ public final class SmallPieces {
         if (set == 0) {
             return UNKNOWN;
         }
-        return d == NONE ? threes.ahead(set) : fours.ahead(set);
+        return d == -1 ? threes.ahead(set) : fours.ahead(set);
     }
 
     public int like(int x, int y) {
@@ -229,8 +229,8 @@ public final class SmallPieces {
     /** The SET of these NODES (d = -1: of three); 0 if one of them is unknown or told twice. */
     private int setOf(int a, int b, int c, int d) {
         int three = graph.bit(a) | graph.bit(b) | graph.bit(c);
-        int set = d == NONE ? three : three | graph.bit(d);
-        return Integer.bitCount(set) == (d == NONE ? 3 : 4) ? set : 0;
+        int set = d == -1 ? three : three | graph.bit(d);
+        return Integer.bitCount(set) == (d == -1 ? 3 : 4) ? set : 0;
     }
 
     private static boolean isColour(int c) {
@@ -328,6 +328,9 @@ public final class SmallPieces {
         }
 
         void toggle(int a, int b) {
+            if (twoOf(a, b) == 0) {
+                return;
+            }
             edges += joins(a, b) ? -1 : 1;
             joined[a] ^= 1 << b;
             joined[b] ^= 1 << a;
@@ -417,7 +420,7 @@ public final class SmallPieces {
             fill(members, 0, 0, 0, size);
         }
 
-        /** Writes each SET that has `left` NODES from `least` on beside those of `set`; answers where the next one goes. */
+        /** Writes each SET that has `left` NODES from `least` on beside those of `set`; answers where the next goes. */
         private static int fill(int[] row, int at, int set, int least, int left) {
             if (left <= 0) {
                 if (at < row.length) {
@@ -453,15 +456,15 @@ public final class SmallPieces {
             }
         }
 
-        private boolean isAmong(int i, int nodes) {
-            return (members[i] & ~nodes) == 0;
+        private static boolean isAmong(int set, int nodes) {
+            return (set & ~nodes) == 0;
         }
 
         /** How many SETS of a SORT have all of `must` and nothing outside of `may`. */
         int tally(int wanted, int must, int may) {
             int n = 0;
             for (int i = 0; i < members.length; i++) {
-                if (sorts[i] == wanted && (members[i] & must) == must && isAmong(i, may)) {
+                if (sorts[i] == wanted && (members[i] & must) == must && isAmong(members[i], may)) {
                     n++;
                 }
             }
@@ -472,7 +475,7 @@ public final class SmallPieces {
             int all = graph.all();
             int n = 0;
             for (int i = 0; i < members.length; i++) {
-                if (sorts[i] == wanted && holds(members[i], x) && isAmong(i, all)
+                if (sorts[i] == wanted && holds(members[i], x) && isAmong(members[i], all)
                         && graph.degreeIn(x, members[i]) == degree) {
                     n++;
                 }
@@ -484,7 +487,7 @@ public final class SmallPieces {
             int all = graph.all();
             int n = 0;
             for (int i = 0; i < members.length; i++) {
-                if (sorts[i] == wanted && isAmong(i, all) && graph.coloursDiffer(members[i])) {
+                if (sorts[i] == wanted && isAmong(members[i], all) && graph.coloursDiffer(members[i])) {
                     n++;
                 }
             }
@@ -498,7 +501,7 @@ public final class SmallPieces {
             int gain = 0;
             graph.toggle(a, b);
             for (int i = 0; i < members.length; i++) {
-                if ((members[i] & ends) == ends && isAmong(i, all)) {
+                if ((members[i] & ends) == ends && isAmong(members[i], all)) {
                     gain += graph.sortOf(members[i]) == wanted ? 1 : 0;
                     gain -= sorts[i] == wanted ? 1 : 0;
                 }
@@ -512,7 +515,7 @@ public final class SmallPieces {
             int all = graph.all();
             int seen = 0;
             for (int i = 0; i < members.length; i++) {
-                if (sorts[i] == wanted && isAmong(i, all)) {
+                if (sorts[i] == wanted && isAmong(members[i], all)) {
                     if (seen == k) {
                         return members[i];
                     }
@@ -527,7 +530,7 @@ public final class SmallPieces {
             int all = graph.all();
             int n = 0;
             for (int i = 0; i < members.length && members[i] != set; i++) {
-                if (sorts[i] == wanted && isAmong(i, all)) {
+                if (sorts[i] == wanted && isAmong(members[i], all)) {
                     n++;
                 }
             }
@@ -538,9 +541,9 @@ public final class SmallPieces {
             int all = graph.all();
             Arrays.fill(balance, 0);
             for (int i = 0; i < members.length; i++) {
-                if (isAmong(i, all)) {
-                    weigh(i, x, 1);
-                    weigh(i, y, -1);
+                if (isAmong(members[i], all)) {
+                    weigh(members[i], sorts[i], x, 1);
+                    weigh(members[i], sorts[i], y, -1);
                 }
             }
             for (int i = 0; i < balance.length; i++) {
@@ -551,11 +554,11 @@ public final class SmallPieces {
             return true;
         }
 
-        private void weigh(int i, int x, int by) {
-            if (!holds(members[i], x)) {
+        private void weigh(int set, int ofSort, int x, int by) {
+            if (!holds(set, x)) {
                 return;
             }
-            int at = placeOfSort(sorts[i]) * (GREATEST_DEGREE + 1) + graph.degreeIn(x, members[i]);
+            int at = placeOfSort(ofSort) * (GREATEST_DEGREE + 1) + graph.degreeIn(x, set);
             if (at >= 0 && at < balance.length) {
                 balance[at] += by;
             }

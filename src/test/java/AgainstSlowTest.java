@@ -10,8 +10,13 @@ public final class AgainstSlowTest {
     private static final int[] SORTS_OF_FOUR = {0, 1100, 1111, 2110, 2211, 2220, 2222, 3111, 3221, 3322, 3333};
     private static final int[] ODD = {-1, -2, -3, -4, 4, 5, 7, 14, 15, 16, 31, 32, 33, 100, 110, 1100, 3331, 10000,
         Integer.MAX_VALUE, Integer.MIN_VALUE};
+    // Told more than once: what is to be called more often.
+    private static final String[] NAMES = {"node", "edge", "edge", "edge", "edge", "colour", "colour", "told", "degree",
+        "both", "count", "placed", "placed", "pair", "pair", "coloured", "coloured", "mixed", "change", "change",
+        "change", "after", "after", "nth", "nth", "sort", "sort", "rank", "rank", "like", "like", "closed", "closed",
+        "rings", "ringsBy", "ways", "ways"};
 
-    public static void main(String[] args) {
+    public static void main(String[] args) throws ReflectiveOperationException {
         int wrong = 0;
         for (int run = 0; run < 240; run++) {
             wrong += compare(run);
@@ -23,133 +28,95 @@ public final class AgainstSlowTest {
         System.out.println("all runs agree with the slow writing");
     }
 
+    private record Call(String name, int... args) {
+        @Override
+        public String toString() {
+            return name + Arrays.toString(args);
+        }
+    }
+
     /** A run ends at its first difference: what follows would only repeat it. */
-    private static int compare(int run) {
+    private static int compare(int run) throws ReflectiveOperationException {
         Random random = new Random(run);
         SmallPieces fast = new SmallPieces();
         Slow slow = new Slow();
         int nodes = random.nextInt(15);
         int density = random.nextInt(101);
-        List<int[]> calls = beginning(random, nodes, density);
+        List<Call> calls = beginning(random, nodes, density);
         while (calls.size() < CALLS) {
             calls.add(anyCall(random, nodes));
         }
         for (int i = 0; i < calls.size(); i++) {
-            int[] call = calls.get(i);
+            Call call = calls.get(i);
             int got = answer(fast, call);
             int due = answer(slow, call);
             if (got != due) {
-                System.out.println("run " + run + ", call " + i + " " + Arrays.toString(call)
-                        + " answered " + got + ", due is " + due);
+                System.out.println("run " + run + ", call " + i + ": " + call + " answered " + got + ", due is " + due);
                 return 1;
             }
         }
         return 0;
     }
 
-    private static List<int[]> beginning(Random random, int nodes, int density) {
-        List<int[]> calls = new ArrayList<>();
+    /** Both writings have the same face, but no type in common. */
+    private static int answer(Object pieces, Call call) throws ReflectiveOperationException {
+        Class<?>[] types = new Class<?>[call.args.length];
+        Arrays.fill(types, int.class);
+        Object[] args = Arrays.stream(call.args).boxed().toArray();
+        return (Integer) pieces.getClass().getDeclaredMethod(call.name, types).invoke(pieces, args);
+    }
+
+    private static List<Call> beginning(Random random, int nodes, int density) {
+        List<Call> calls = new ArrayList<>();
         for (int x = 0; x < nodes; x++) {
-            calls.add(new int[] {0, random.nextInt(4)});
+            calls.add(new Call("node", random.nextInt(4)));
         }
         for (int a = 0; a < nodes; a++) {
             for (int b = 0; b < a; b++) {
                 if (random.nextInt(100) < density) {
-                    calls.add(new int[] {2, a, b});
+                    calls.add(new Call("edge", a, b));
                 }
             }
         }
         return calls;
     }
 
-    private static int[] anyCall(Random random, int nodes) {
-        int[] kinds = {0, 2, 2, 2, 2, 3, 3, 4, 5, 6, 7, 8, 8, 9, 9, 10, 10, 11, 12, 12, 12, 13, 13, 14, 14, 15, 15,
-            16, 16, 17, 17, 18, 18, 19, 20, 21, 21};
-        int kind = kinds[random.nextInt(kinds.length)];
+    private static Call anyCall(Random random, int nodes) {
         if (random.nextInt(400) == 0) {
-            kind = 1;
+            return new Call("clear");
         }
-        int size = 3 + random.nextInt(2);
-        int[] sorts = size == 3 ? SORTS_OF_THREE : SORTS_OF_FOUR;
-        int sort = sorts[random.nextInt(sorts.length)];
-        int bound = Math.max(1, nodes);
-        int[] x = {random.nextInt(bound), random.nextInt(bound), random.nextInt(bound), random.nextInt(bound)};
-        int l = 1 + random.nextInt(6);
-        int[] call = switch (kind) {
-            case 0 -> new int[] {0, random.nextInt(4)};
-            case 1 -> new int[] {1};
-            case 3 -> new int[] {3, x[0], random.nextInt(4)};
-            case 4 -> new int[] {4, random.nextInt(2)};
-            case 5 -> new int[] {5, x[0]};
-            case 7, 11, 12 -> new int[] {kind, size, sort};
-            case 8 -> new int[] {8, size, sort, random.nextInt(4), x[0]};
-            case 9, 13 -> new int[] {kind, size, sort, x[0], x[1]};
-            case 10 -> new int[] {10, size, sort, random.nextInt(16)};
-            case 14 -> new int[] {14, size, sort, random.nextInt(random.nextBoolean() ? 5 : 200), random.nextInt(4)};
-            case 15, 16 -> new int[] {kind, x[0], x[1], x[2], random.nextBoolean() ? -1 : x[3]};
-            case 18 -> new int[] {18, x[0], random.nextInt(2)};
-            case 19 -> new int[] {19, Math.max(3, l)};
-            case 20 -> new int[] {20, Math.max(3, l), x[0]};
-            case 21 -> new int[] {21, Math.min(5, l), x[0], x[1]};
-            default -> new int[] {kind, x[0], x[1]};
-        };
-        if (call.length > 1 && random.nextInt(8) == 0) {
-            call[1 + random.nextInt(call.length - 1)] = ODD[random.nextInt(ODD.length)];
+        Call call = rightCall(random, nodes, NAMES[random.nextInt(NAMES.length)]);
+        if (random.nextInt(8) == 0) {
+            call.args[random.nextInt(call.args.length)] = ODD[random.nextInt(ODD.length)];
         }
         return call;
     }
 
-    private static int answer(SmallPieces p, int[] c) {
-        return switch (c[0]) {
-            case 0 -> p.node(c[1]);
-            case 1 -> p.clear();
-            case 2 -> p.edge(c[1], c[2]);
-            case 3 -> p.colour(c[1], c[2]);
-            case 4 -> p.told(c[1]);
-            case 5 -> p.degree(c[1]);
-            case 6 -> p.both(c[1], c[2]);
-            case 7 -> p.count(c[1], c[2]);
-            case 8 -> p.placed(c[1], c[2], c[3], c[4]);
-            case 9 -> p.pair(c[1], c[2], c[3], c[4]);
-            case 10 -> p.coloured(c[1], c[2], c[3]);
-            case 11 -> p.mixed(c[1], c[2]);
-            case 12 -> p.change(c[1], c[2]);
-            case 13 -> p.after(c[1], c[2], c[3], c[4]);
-            case 14 -> p.nth(c[1], c[2], c[3], c[4]);
-            case 15 -> p.sort(c[1], c[2], c[3], c[4]);
-            case 16 -> p.rank(c[1], c[2], c[3], c[4]);
-            case 17 -> p.like(c[1], c[2]);
-            case 18 -> p.closed(c[1], c[2]);
-            case 19 -> p.rings(c[1]);
-            case 20 -> p.ringsBy(c[1], c[2]);
-            default -> p.ways(c[1], c[2], c[3]);
-        };
-    }
-
-    private static int answer(Slow p, int[] c) {
-        return switch (c[0]) {
-            case 0 -> p.node(c[1]);
-            case 1 -> p.clear();
-            case 2 -> p.edge(c[1], c[2]);
-            case 3 -> p.colour(c[1], c[2]);
-            case 4 -> p.told(c[1]);
-            case 5 -> p.degree(c[1]);
-            case 6 -> p.both(c[1], c[2]);
-            case 7 -> p.count(c[1], c[2]);
-            case 8 -> p.placed(c[1], c[2], c[3], c[4]);
-            case 9 -> p.pair(c[1], c[2], c[3], c[4]);
-            case 10 -> p.coloured(c[1], c[2], c[3]);
-            case 11 -> p.mixed(c[1], c[2]);
-            case 12 -> p.change(c[1], c[2]);
-            case 13 -> p.after(c[1], c[2], c[3], c[4]);
-            case 14 -> p.nth(c[1], c[2], c[3], c[4]);
-            case 15 -> p.sort(c[1], c[2], c[3], c[4]);
-            case 16 -> p.rank(c[1], c[2], c[3], c[4]);
-            case 17 -> p.like(c[1], c[2]);
-            case 18 -> p.closed(c[1], c[2]);
-            case 19 -> p.rings(c[1]);
-            case 20 -> p.ringsBy(c[1], c[2]);
-            default -> p.ways(c[1], c[2], c[3]);
+    private static Call rightCall(Random random, int nodes, String name) {
+        int size = 3 + random.nextInt(2);
+        int[] sorts = size == 3 ? SORTS_OF_THREE : SORTS_OF_FOUR;
+        int sort = sorts[random.nextInt(sorts.length)];
+        int bound = Math.max(1, nodes);
+        int a = random.nextInt(bound);
+        int b = random.nextInt(bound);
+        int l = 1 + random.nextInt(6);
+        return switch (name) {
+            case "node" -> new Call(name, random.nextInt(4));
+            case "colour" -> new Call(name, a, random.nextInt(4));
+            case "told" -> new Call(name, random.nextInt(2));
+            case "degree" -> new Call(name, a);
+            case "count", "mixed", "change" -> new Call(name, size, sort);
+            case "placed" -> new Call(name, size, sort, random.nextInt(4), a);
+            case "pair", "after" -> new Call(name, size, sort, a, b);
+            case "coloured" -> new Call(name, size, sort, random.nextInt(16));
+            case "nth" -> new Call(name, size, sort, random.nextInt(random.nextBoolean() ? 5 : 200), random.nextInt(4));
+            case "sort", "rank" -> new Call(name, a, b, random.nextInt(bound),
+                    random.nextBoolean() ? -1 : random.nextInt(bound));
+            case "closed" -> new Call(name, a, random.nextInt(2));
+            case "rings" -> new Call(name, Math.max(3, l));
+            case "ringsBy" -> new Call(name, Math.max(3, l), a);
+            case "ways" -> new Call(name, Math.min(5, l), a, b);
+            default -> new Call(name, a, b);
         };
     }
 
