@@ -286,7 +286,7 @@ public final class SmallPieces {
         int add(int c) {
             int x = nodes;
             nodes++;
-            painted[c] |= 1 << x;
+            paint(x, c);
             return x;
         }
 
@@ -336,15 +336,15 @@ public final class SmallPieces {
             joined[b] ^= 1 << a;
         }
 
+        /** Answers the COLOUR that the NODE had; NONE if it is a new one. */
         int paint(int x, int c) {
             int had = NONE;
             for (int i = 0; i < COLOURS; i++) {
                 if (holds(painted[i], x)) {
                     had = i;
                 }
-                painted[i] &= ~(1 << x);
+                painted[i] = i == c ? painted[i] | bit(x) : painted[i] & ~bit(x);
             }
-            painted[c] |= 1 << x;
             return had;
         }
 
