@@ -170,12 +170,12 @@ public final class SmallPieces {
             return UNKNOWN;
         }
         int near = graph.near(x);
-        int above = graph.edgesIn(near);
-        int below = Integer.bitCount(near) * (Integer.bitCount(near) - 1) / 2;
-        if (below == 0) {
+        int pairs = Integer.bitCount(near) * (Integer.bitCount(near) - 1) / 2;
+        if (pairs == 0) {
             return part == 0 ? 0 : 1;
         }
-        return (part == 0 ? above : below) / commonDivisor(above, below);
+        int joined = graph.edgesIn(near);
+        return part == 0 ? reduced(joined, pairs) : reduced(pairs, joined);
     }
 
     // ---- rings and ways
@@ -258,13 +258,14 @@ public final class SmallPieces {
         return NONE;
     }
 
-    private static int commonDivisor(int above, int below) {
-        for (int divisor = below; divisor > 1; divisor--) {
-            if (above % divisor == 0 && below % divisor == 0) {
-                return divisor;
+    /** One part of a share in lowest terms. */
+    private static int reduced(int part, int other) {
+        for (int divisor = part; divisor > 1; divisor--) {
+            if (part % divisor == 0 && other % divisor == 0) {
+                return part / divisor;
             }
         }
-        return 1;
+        return part;
     }
 
     /** NODES, COLOURS and EDGES. Any set of NODES is a number here: bit x stands for NODE x. */

@@ -1,9 +1,17 @@
+import java.io.IOException;
 import java.lang.reflect.Constructor;
 import java.lang.reflect.Field;
 import java.lang.reflect.Method;
 import java.lang.reflect.Modifier;
+import java.nio.file.Files;
+import java.nio.file.Path;
+import java.util.ArrayList;
+import java.util.Arrays;
+import java.util.List;
 import java.util.Set;
 import java.util.TreeSet;
+import java.util.regex.Matcher;
+import java.util.regex.Pattern;
 
 /** The class shows the document's face and nothing else. */
 public final class FaceTest {
@@ -19,31 +27,32 @@ public final class FaceTest {
         "public int like(int,int)", "public int closed(int,int)", "public int rings(int)",
         "public int ringsBy(int,int)", "public int ways(int,int,int)",
     };
+    private static final List<String> CALLS_AND_HEADINGS = List.of("node", "clear", "edge", "colour", "told", "degree",
+            "both", "---- sets", "count", "placed", "pair", "coloured", "mixed", "change", "after", "nth", "sort",
+            "rank", "like", "closed", "---- rings and ways", "rings", "ringsBy", "ways");
 
-    public static void main(String[] args) {
+    public static void main(String[] args) throws IOException {
+        members();
+        classItself();
+        classesInside();
+        namesOfPrivateMethods();
+        headings();
+        Due.end();
+    }
+
+    private static void members() {
         Set<String> due = new TreeSet<>(Set.of(FACE));
         Set<String> got = shown();
-        int wrong = 0;
         for (String member : due) {
             if (!got.contains(member)) {
-                wrong++;
-                System.out.println("missing: " + member);
+                Due.tell("missing: " + member);
             }
         }
         for (String member : got) {
             if (!due.contains(member)) {
-                wrong++;
-                System.out.println("not in the document: " + member);
+                Due.tell("not in the document: " + member);
             }
         }
-        if (!Modifier.isFinal(SmallPieces.class.getModifiers())) {
-            wrong++;
-            System.out.println("the class is not final");
-        }
-        if (wrong != 0) {
-            System.exit(1);
-        }
-        System.out.println("the face is the document's");
     }
 
     private static Set<String> shown() {
@@ -64,5 +73,49 @@ public final class FaceTest {
             }
         }
         return shown;
+    }
+
+    private static void classItself() {
+        int modifiers = SmallPieces.class.getModifiers();
+        if (!Modifier.isPublic(modifiers) || !Modifier.isFinal(modifiers)) {
+            Due.tell("the class is not public and final");
+        }
+        if (SmallPieces.class.getSuperclass() != Object.class || SmallPieces.class.getInterfaces().length != 0) {
+            Due.tell("the class is of a kind that the document does not name");
+        }
+    }
+
+    private static void classesInside() {
+        for (Class<?> inside : SmallPieces.class.getDeclaredClasses()) {
+            int modifiers = inside.getModifiers();
+            if (Modifier.isPublic(modifiers) || Modifier.isProtected(modifiers) || !Modifier.isStatic(modifiers)) {
+                Due.tell("a class inside is seen from outside or not static: " + inside);
+            }
+        }
+    }
+
+    private static void namesOfPrivateMethods() {
+        List<Class<?>> classes = new ArrayList<>(Arrays.asList(SmallPieces.class.getDeclaredClasses()));
+        classes.add(SmallPieces.class);
+        for (Class<?> of : classes) {
+            for (Method method : of.getDeclaredMethods()) {
+                if (!Modifier.isPublic(method.getModifiers()) && CALLS_AND_HEADINGS.contains(method.getName())) {
+                    Due.tell("not public, but with the name of a call: " + method);
+                }
+            }
+        }
+    }
+
+    /** Reflection knows no comments and no order, so these are looked for in the text. */
+    private static void headings() throws IOException {
+        String text = Files.readString(Path.of("src/main/java/SmallPieces.java"));
+        Matcher line = Pattern.compile("^    (?:// (----.*)|public int (\\w+)\\(.*)$", Pattern.MULTILINE).matcher(text);
+        List<String> got = new ArrayList<>();
+        while (line.find()) {
+            got.add(line.group(1) != null ? line.group(1) : line.group(2));
+        }
+        if (!got.equals(CALLS_AND_HEADINGS)) {
+            Due.tell("calls and headings stand so: " + got);
+        }
     }
 }
